@@ -157,10 +157,8 @@ public final class LathePieces {
 
     /** Promise 14. */
     public long volume(int piece, boolean upper) throws IndexOutOfBoundsException {
-        Piece wood = pieceAt(piece);
-        return upper
-                ? wood.greaterSquares() * 314160 / 100000 + 1
-                : wood.lesserSquares() * 314159 / 100000;
+        long squares = pieceAt(piece).sumOfSquares(upper);
+        return upper ? squares * 314160 / 100000 + 1 : squares * 314159 / 100000;
     }
 
     /** Promise 15. */
@@ -469,20 +467,14 @@ public final class LathePieces {
             return next;
         }
 
-        long lesserSquares() {
+        /** Over each two neighbour places, of the greater or of the lesser radius. */
+        long sumOfSquares(boolean greater) {
             long sum = 0;
             for (int x = 1; x <= length; x++) {
-                long lesser = Math.min(radii[x - 1], radii[x]);
-                sum += lesser * lesser;
-            }
-            return sum;
-        }
-
-        long greaterSquares() {
-            long sum = 0;
-            for (int x = 1; x <= length; x++) {
-                long greater = Math.max(radii[x - 1], radii[x]);
-                sum += greater * greater;
+                long side = greater
+                        ? Math.max(radii[x - 1], radii[x])
+                        : Math.min(radii[x - 1], radii[x]);
+                sum += side * side;
             }
             return sum;
         }

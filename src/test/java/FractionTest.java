@@ -183,6 +183,8 @@ public final class FractionTest {
             thread(999, 1000)
             threadAt(99999, 0) = 99899001
             threadAt(99999, 1) = 1000
+            thread(1, 1)
+            threadAt(3, 0) = 3
             """);
     }
 }

@@ -1,3 +1,4 @@
+import java.util.Arrays;
 import java.util.Map;
 import java.util.Random;
 import java.util.TreeMap;
@@ -49,7 +50,7 @@ public final class PlainLatheTest {
             String due = plain.answer(name, numbers, upper);
             note(name, numbers, due);
             Script.check(got.equals(due), "seed " + seed + ", call " + n + ": " + name
-                    + java.util.Arrays.toString(numbers) + " " + upper + " answered " + got + ", due is " + due);
+                    + Arrays.toString(numbers) + " " + upper + " answered " + got + ", due is " + due);
         }
     }
 
@@ -90,6 +91,10 @@ public final class PlainLatheTest {
             return random.nextBoolean() ? least : most;
         }
         return least + random.nextInt(most - least + 1);
+    }
+
+    private int few(int many, int few) {
+        return random.nextBoolean() ? many : few;
     }
 
     private int piece() {
@@ -139,17 +144,17 @@ public final class PlainLatheTest {
             case "reached": return new int[] {piece(), piece(), place()};
             case "left": case "copy": return new int[] {piece(), piece()};
             case "passes": return new int[] {piece(), piece(), near(1, 100), near(0, 50)};
-            case "cut": return new int[] {piece(), piece(), near(1, random.nextBoolean() ? 100 : 5), near(0, 50), near(1, 12)};
+            case "cut": return new int[] {piece(), piece(), near(1, few(100, 5)), near(0, 50), near(1, 12)};
             case "steady": return new int[] {piece(), near(1, random.nextInt(3) == 0 ? 500 : 20), near(0, 6)};
             case "volume": return new int[] {piece()};
-            case "hollow": return new int[] {piece(), near(1, random.nextBoolean() ? 100 : 9), near(0, random.nextBoolean() ? 100 : 9)};
+            case "hollow": return new int[] {piece(), near(1, few(100, 9)), near(0, few(100, 9))};
             case "wedge": return random.nextInt(3) == 0
                     ? new int[] {piece(), near(1, 3600), near(1, 12)}
                     : new int[] {piece(), 30 * near(1, 12), near(1, 4)};
             case "mitre": return new int[] {piece(), near(0, 8), near(0, 1)};
             case "gap": return new int[] {piece(), near(0, 1)};
             case "closes": return new int[] {piece()};
-            case "flute": return new int[] {near(1, random.nextBoolean() ? 1000 : 20), near(0, 19), near(0, 1)};
+            case "flute": return new int[] {near(1, few(1000, 20)), near(0, 19), near(0, 1)};
             case "thread": return new int[] {near(1, 1000), near(1, 1000)};
             case "threadAt": return new int[] {near(0, 100000), near(0, 1)};
             case "row": return new int[] {near(1, 500), near(1, 10000)};

@@ -195,6 +195,7 @@ public final class ProfileTest {
             arc(64, 500, 32, -1000, true) = true
             turn() = 0
             radius(0, 32) = 500
+            radius(0, 64) = 500
             start(0)
             arc(64, 0, 32, 1500, false) = true
             turn() = 1
@@ -359,6 +360,15 @@ public final class ProfileTest {
             about(0, -1) = throws.IndexOutOfBoundsException
             about(1, 0) = throws.IndexOutOfBoundsException
             about(-1, 0) = throws.IndexOutOfBoundsException
+            """);
+        Script.run("promise 7: the greatest radius may be at either end", """
+            start(40)
+            line(3, 8) = 1
+            turn() = 0
+            about(0, 1) = 43
+            line(4, 90) = 2
+            turn() = 1
+            about(1, 1) = 93
             """);
     }
 }

@@ -66,5 +66,20 @@ public final class SpeedTest {
             row(30, 1) = throws.IllegalArgumentException
             speed(0, 40) = 2500
             """);
+        Script.run("promise 26: eight rows, all of them below", """
+            start(8)
+            line(1, 9) = 1
+            turn() = 0
+            row(1, 11) = 1
+            row(2, 12) = 2
+            row(3, 13) = 3
+            row(4, 14) = 4
+            row(5, 15) = 5
+            row(6, 16) = 6
+            row(7, 17) = 7
+            row(8, 18) = 8
+            speed(0, 0) = 18
+            speed(0, 1) = 18
+            """);
     }
 }

@@ -82,6 +82,15 @@ public final class ToolTest {
             reached(0, 0, 13) = 9
             reached(0, 0, 12) = 7
             """);
+        Script.run("promise 9: a nose of 0 is the radius itself", """
+            start(0)
+            line(2, 1) = 1
+            turn() = 0
+            tool(0) = 0
+            reached(0, 0, 0) = 0
+            reached(0, 0, 1) = 0
+            reached(0, 0, 2) = 1
+            """);
     }
 
     private static void left() {
@@ -109,6 +118,15 @@ public final class ToolTest {
             tool(12) = 2
             left(2, 2) = 0
             """);
+        Script.run("promise 10: the ends count", """
+            start(0)
+            line(1, 20) = 1
+            line(2, 20) = 2
+            line(3, 0) = 3
+            turn() = 0
+            tool(1) = 0
+            left(0, 0) = 2
+            """);
     }
 
     private static void passes() {
@@ -134,6 +152,17 @@ public final class ToolTest {
             passes(-1, 0, 1, 0) = throws.IndexOutOfBoundsException
             passes(0, 2, 0, 51) = throws.IndexOutOfBoundsException
             passes(0, -1, 1, 0) = throws.IndexOutOfBoundsException
+            """);
+        Script.run("promise 11: the ends count", """
+            tool(0) = 0
+            start(2)
+            line(3, 9) = 1
+            turn() = 0
+            passes(0, 0, 1, 0) = 10
+            start(9)
+            line(3, 2) = 1
+            turn() = 1
+            passes(1, 0, 1, 0) = 10
             """);
     }
 
