@@ -133,6 +133,19 @@ public final class FractionTest {
     }
 
     private static void flute() {
+        Script.run("promise 22: k of 0 .. n - 1", """
+            flute(1, 0, 0) = 0
+            flute(1, 0, 1) = 1
+            flute(1, 1, 0) = throws.IllegalArgumentException
+            flute(1, -1, 0) = throws.IllegalArgumentException
+            flute(2, 1, 0) = 180
+            flute(2, 2, 0) = throws.IllegalArgumentException
+            flute(1000, 999, 1) = 25
+            flute(1000, 1000, 0) = throws.IllegalArgumentException
+            flute(0, -1, 0) = throws.IllegalArgumentException
+            flute(1001, 1000, 0) = throws.IllegalArgumentException
+            flute(-2147483648, 2147483647, 0) = throws.IllegalArgumentException
+            """);
         Script.run("promise 22", """
             flute(7, 3, 0) = 1080
             flute(7, 3, 1) = 7
@@ -155,6 +168,25 @@ public final class FractionTest {
     }
 
     private static void thread() {
+        Script.run("promise 24: there is no PITCH", """
+            threadAt(0, 0) = throws.IllegalStateException
+            thread(1, 1001) = throws.IllegalArgumentException
+            thread(1001, 1) = throws.IllegalArgumentException
+            threadAt(0, 0) = throws.IllegalStateException
+            thread(1, 1000)
+            threadAt(0, 0) = 0
+            threadAt(1, 0) = 1
+            threadAt(1, 1) = 1000
+            threadAt(100000, 0) = 100
+            threadAt(100000, 1) = 1
+            """);
+        Script.run("promise 23: a PITCH in place of the one before", """
+            thread(3, 2)
+            threadAt(1, 0) = 3
+            thread(5, 7)
+            threadAt(1, 0) = 5
+            threadAt(1, 1) = 7
+            """);
         Script.run("promises 23, 24", """
             threadAt(0, 0) = throws.IllegalStateException
             thread(0, 1) = throws.IllegalArgumentException

@@ -12,6 +12,16 @@ public final class PieceTest {
     }
 
     private static void steady() {
+        Script.run("promise 13: there are not so many", """
+            start(0)
+            line(3, 0) = 1
+            turn() = 0
+            steady(0, 1, 1) = 2
+            steady(0, 1, 2) = throws.IllegalStateException
+            steady(0, 1, 3) = throws.IllegalStateException
+            steady(0, 1, 64) = throws.IllegalStateException
+            steady(0, 1, 2147483647) = throws.IllegalStateException
+            """);
         Script.run("promise 13: an even rod", """
             start(12)
             line(10, 12) = 1
@@ -125,6 +135,27 @@ public final class PieceTest {
     }
 
     private static void copy() {
+        Script.run("promise 16: at places that both have", """
+            start(0)
+            line(2, 0) = 1
+            turn() = 0
+            line(3, 500) = 2
+            turn() = 1
+            start(0)
+            line(1, 0) = 1
+            line(2, 4) = 2
+            turn() = 2
+            start(0)
+            line(2, 500) = 1
+            turn() = 3
+            copy(0, 1) = 0
+            copy(1, 0) = 0
+            copy(0, 2) = 4
+            copy(2, 1) = 4
+            copy(0, 3) = 500
+            copy(3, 1) = 500
+            copy(3, 3) = 0
+            """);
         Script.run("promise 16", """
             start(10)
             line(4, 10) = 1

@@ -5,6 +5,7 @@ public final class ProfileTest {
 
     public static void main(String[] args) {
         newObject();
+        firstCalls();
         start();
         line();
         lineFloors();
@@ -55,7 +56,65 @@ public final class ProfileTest {
             """);
     }
 
+    /** Each call as the very first one. */
+    private static void firstCalls() {
+        String[] calls = {
+            "start(0)", "start(500)", "tool(0) = 0", "tool(12) = 0", "ring() = 0", "row(1, 1) = 1",
+            "row(500, 10000) = 1", "thread(1, 1)", "thread(1000, 1000)", "flute(1, 0, 0) = 0",
+            "flute(4, 3, 0) = 270", "line(1, 0) = throws.IllegalStateException",
+            "line(64, 500) = throws.IllegalStateException", "arc(1, 0, 0, 0, true) = throws.IllegalStateException",
+            "arc(64, 500, 32, 500, false) = throws.IllegalStateException", "turn() = throws.IllegalStateException",
+            "threadAt(0, 0) = throws.IllegalStateException", "threadAt(100000, 1) = throws.IllegalStateException",
+        };
+        for (String call : calls) {
+            Script.run("promise 1: as the first call", call);
+        }
+        String[] ofNothing = {
+            "radius(#, 0)", "about(#, 0)", "about(#, 2)", "reached(#, 0, 0)", "left(#, 0)", "passes(#, 0, 1, 0)",
+            "cut(#, 0, 1, 0, 1)", "steady(#, 1, 0)", "volume(#, true)", "volume(#, false)", "hollow(#, 1, 0)",
+            "copy(#, #)", "speed(#, 0)", "wedge(#, 1, 1)", "mitre(#, 0, 0)", "gap(#, 0)", "closes(#)",
+        };
+        for (String call : ofNothing) {
+            for (String number : new String[] {"-1", "0", "5", "6"}) {
+                Script.run("promise 1: there is none", call.replace("#", number) + " = throws.IndexOutOfBoundsException");
+            }
+        }
+        Script.run("promise 1: a tool alone reaches nothing, a piece alone has no tool", """
+            tool(3) = 0
+            reached(0, 0, 0) = throws.IndexOutOfBoundsException
+            left(0, 0) = throws.IndexOutOfBoundsException
+            start(5)
+            line(3, 5) = 1
+            reached(0, 0, 0) = throws.IndexOutOfBoundsException
+            turn() = 0
+            reached(0, 0, 0) = 5
+            reached(0, 1, 0) = throws.IndexOutOfBoundsException
+            """);
+    }
+
     private static void start() {
+        Script.run("promise 2: in place of the one before", """
+            start(5)
+            line(8, 30) = 1
+            line(9, 31) = 2
+            start(6)
+            turn() = throws.IllegalStateException
+            line(2, 8) = 1
+            turn() = 0
+            about(0, 0) = 2
+            about(0, 1) = 11
+            about(0, 2) = 1
+            radius(0, 0) = 6
+            radius(0, 1) = 7
+            radius(0, 3) = throws.IndexOutOfBoundsException
+            """);
+        Script.run("promise 2: a PROFILE begun twice has no way of the first", """
+            start(5)
+            start(9)
+            line(1, 9) = 1
+            turn() = 0
+            radius(0, 0) = 9
+            """);
         Script.run("promise 2", """
             start(-1) = throws.IllegalArgumentException
             start(501) = throws.IllegalArgumentException
@@ -96,6 +155,14 @@ public final class ProfileTest {
             line(65, 5) = throws.IllegalArgumentException
             line(5, -1) = throws.IllegalArgumentException
             line(5, 501) = throws.IllegalArgumentException
+            """);
+        Script.run("promise 3: at is not behind the last place, once a PROFILE was begun", """
+            start(10)
+            line(9, 10) = 1
+            line(9, 10) = throws.IllegalArgumentException
+            line(8, 10) = throws.IllegalArgumentException
+            line(1, 10) = throws.IllegalArgumentException
+            line(10, 10) = 2
             """);
         Script.run("promise 3: numbers, and nothing changes", """
             start(10)
@@ -304,6 +371,38 @@ public final class ProfileTest {
     }
 
     private static void turn() {
+        Script.run("promise 5: there are 6", """
+            start(5)
+            line(1, 6) = 1
+            turn() = 0
+            turn() = 1
+            turn() = 2
+            turn() = 3
+            turn() = 4
+            turn() = 5
+            turn() = throws.IllegalStateException
+            turn() = throws.IllegalStateException
+            about(5, 0) = 1
+            about(6, 0) = throws.IndexOutOfBoundsException
+            start(8)
+            turn() = throws.IllegalStateException
+            line(2, 8) = 1
+            turn() = throws.IllegalStateException
+            """);
+        Script.run("promise 5: the PROFILE has no WAY", """
+            turn() = throws.IllegalStateException
+            start(5)
+            turn() = throws.IllegalStateException
+            arc(4, 6, 2, 5, true) = false
+            turn() = throws.IllegalStateException
+            line(65, 5) = throws.IllegalArgumentException
+            turn() = throws.IllegalStateException
+            arc(4, 5, 2, 5, true) = true
+            turn() = 0
+            start(5)
+            turn() = throws.IllegalStateException
+            about(1, 0) = throws.IndexOutOfBoundsException
+            """);
         Script.run("promise 5: six pieces, the profile goes on", """
             turn() = throws.IllegalStateException
             start(5)

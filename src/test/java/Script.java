@@ -27,28 +27,36 @@ final class Script {
     private Script() {
     }
 
-    /** On a new object. */
-    static void run(String name, String... parts) {
+    /** On a new object, which is handed out at the end. */
+    static LathePieces run(String name, String... parts) {
         LathePieces made = new LathePieces();
         for (String line : String.join("\n", parts).split("\n")) {
             if (!line.isBlank()) {
                 ask(name, made, line.strip());
             }
         }
+        return made;
     }
 
     private static void ask(String name, LathePieces made, String line) {
+        Matcher row = matched(line);
+        String due = row.group(3) == null ? "null" : row.group(3);
+        String got = tell(made, line);
+        check(got.equals(due), name + ": " + line + " answered " + got);
+    }
+
+    private static Matcher matched(String line) {
         Matcher row = ROW.matcher(line);
         if (!row.matches()) {
             throw new IllegalArgumentException("not a row: " + line);
         }
-        String got = answer(made, row.group(1), arguments(row.group(2)));
-        String due = row.group(3) == null ? "null" : row.group(3);
-        asked++;
-        if (!got.equals(due)) {
-            wrong++;
-            System.out.println(name + ": " + line + " answered " + got);
-        }
+        return row;
+    }
+
+    /** What a call written as text answers, whatever its row says is due. */
+    static String tell(LathePieces made, String line) {
+        Matcher row = matched(line);
+        return answer(made, row.group(1), arguments(row.group(2)));
     }
 
     private static Object[] arguments(String text) {

@@ -10,6 +10,16 @@ public final class SpeedTest {
     }
 
     private static void row() {
+        Script.run("promise 25: not above the one before, which is the last one that was taken", """
+            row(10, 5) = 1
+            row(10, 6) = throws.IllegalArgumentException
+            row(9, 6) = throws.IllegalArgumentException
+            row(400, 0) = throws.IllegalArgumentException
+            row(11, 6) = 2
+            row(11, 6) = throws.IllegalArgumentException
+            row(10, 6) = throws.IllegalArgumentException
+            row(12, 6) = 3
+            """);
         Script.run("promise 25", """
             row(0, 5) = throws.IllegalArgumentException
             row(501, 5) = throws.IllegalArgumentException
@@ -39,6 +49,40 @@ public final class SpeedTest {
     }
 
     private static void speed() {
+        Script.run("promise 26: the first row whose radius is not below it, else the last one", """
+            start(9)
+            line(1, 10) = 1
+            line(2, 11) = 2
+            line(3, 500) = 3
+            line(4, 0) = 4
+            turn() = 0
+            row(10, 700) = 1
+            speed(0, 0) = 700
+            speed(0, 1) = 700
+            speed(0, 2) = 700
+            speed(0, 3) = 700
+            row(11, 900) = 2
+            speed(0, 1) = 700
+            speed(0, 2) = 900
+            speed(0, 3) = 900
+            row(499, 20) = 3
+            speed(0, 2) = 900
+            speed(0, 3) = 20
+            row(500, 1) = 4
+            speed(0, 3) = 1
+            speed(0, 4) = 700
+            """);
+        Script.run("promise 26: there are no rows", """
+            start(9)
+            line(1, 10) = 1
+            turn() = 0
+            speed(0, 0) = throws.IllegalStateException
+            row(0, 1) = throws.IllegalArgumentException
+            speed(0, 1) = throws.IllegalStateException
+            speed(0, 2) = throws.IndexOutOfBoundsException
+            row(1, 1) = 1
+            speed(0, 1) = 1
+            """);
         Script.run("promise 26", """
             start(0)
             line(40, 40) = 1

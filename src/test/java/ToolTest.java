@@ -39,6 +39,32 @@ public final class ToolTest {
     }
 
     private static void reached() {
+        Script.run("promises 8, 9: tools by their numbers, of one piece or of another", """
+            start(0)
+            line(1, 0) = 1
+            line(2, 20) = 2
+            turn() = 0
+            tool(0) = 0
+            tool(2) = 1
+            tool(2) = 2
+            tool(12) = 3
+            reached(0, 0, 0) = 0
+            reached(0, 1, 0) = 18
+            reached(0, 2, 0) = 18
+            reached(0, 3, 0) = 19
+            start(30)
+            line(1, 30) = 1
+            line(2, 50) = 2
+            turn() = 1
+            reached(1, 0, 0) = 30
+            reached(1, 1, 0) = 48
+            reached(0, 1, 0) = 18
+            tool(5) = 4
+            tool(1) = 5
+            reached(1, 5, 0) = 30
+            reached(1, 5, 1) = 31
+            reached(1, 5, 2) = 50
+            """);
         Script.run("promise 9: a groove", GROOVE, """
             tool(0) = 0
             tool(1) = 1
@@ -167,6 +193,22 @@ public final class ToolTest {
     }
 
     private static void cut() {
+        Script.run("promise 12: k is below 1", GROOVE, """
+            tool(0) = 0
+            cut(0, 0, 1, 0, 1) = 9
+            cut(0, 0, 1, 0, 0) = throws.IllegalArgumentException
+            cut(0, 0, 1, 0, -1) = throws.IllegalArgumentException
+            cut(0, 0, 100, 50, 0) = throws.IllegalArgumentException
+            """);
+        Script.run("promise 12: (k - 1) * depth does not wrap around", GROOVE, """
+            tool(0) = 0
+            cut(0, 0, 100, 0, 2147483647) = 0
+            cut(0, 0, 99, 0, 2147483647) = 0
+            cut(0, 0, 2, 0, 1073741826) = 0
+            cut(0, 0, 3, 0, 715827884) = 0
+            cut(0, 0, 64, 0, 67108865) = 0
+            cut(0, 0, 32, 0, 100663297) = 0
+            """);
         Script.run("promise 12", GROOVE, """
             tool(0) = 0
             tool(1) = 1
