@@ -133,7 +133,7 @@ public final class LathePieces {
             throws IndexOutOfBoundsException, IllegalArgumentException {
         Reach reach = reachOf(piece, tool);
         checkRough(depth, skin);
-        checkNumber(k, 1, Integer.MAX_VALUE);
+        checkNotBelow(k, 1);
         int blank = pieceAt(piece).blank;
         return reach.placesCut(blank, skin, blank - (k - 1L) * depth);
     }
@@ -143,7 +143,7 @@ public final class LathePieces {
             throws IndexOutOfBoundsException, IllegalArgumentException, IllegalStateException {
         Piece wood = pieceAt(piece);
         checkNumber(span, 1, 500);
-        checkNumber(k, 0, Integer.MAX_VALUE);
+        checkNotBelow(k, 0);
         int steps = Math.min(k, wood.length);
         int held = 0;
         for (int n = 0; n <= steps && held < wood.length; n++) {
@@ -347,6 +347,12 @@ public final class LathePieces {
         }
     }
 
+    private static void checkNotBelow(int number, int least) {
+        if (number < least) {
+            throw new IllegalArgumentException("a number is too small");
+        }
+    }
+
     private static void checkPart(int part) {
         if (part != 0 && part != 1) {
             throw new IndexOutOfBoundsException("no such part");
@@ -537,7 +543,7 @@ public final class LathePieces {
         static int lowAt(int[] lifts, int[] heights, int x) {
             int nose = heights.length - 1;
             int to = Math.min(x + nose, lifts.length - 1);
-            int least = Integer.MAX_VALUE;
+            int least = MOST_RADIUS + MOST_NOSE; // no LIFT is above it
             for (int y = Math.max(x - nose, 0); y <= to; y++) {
                 least = Math.min(least, lifts[y] - heights[Math.abs(y - x)]);
             }
